@@ -44,6 +44,7 @@ public final class ShareNets {
     private final Tally smallTally = new Tally();
     private final Net small = new Net();
     private final int[] lifted = new int[MOST_FORMS];
+    private final int[] order = new int[MOST_POSTS];
     private final int[] image = new int[MOST_POSTS];
 
     public ShareNets() {
@@ -145,6 +146,7 @@ public final class ShareNets {
         if (one.size != other.size || one.countRoads() != other.countRoads()) {
             return 0;
         }
+        orderPosts(one);
         return canMatch(one, other, 0, 0) ? 1 : 0;
     }
 
@@ -754,13 +756,35 @@ public final class ShareNets {
 
     // ---- nets alike, nets that are free
 
-    /** Whether POSTS of one from place on can stand for those of the other that are not used yet. */
+    /** Each POST next to as many as can be before it, or apart from them in a dense NET: so what can't match shows early. */
+    private void orderPosts(Net net) {
+        boolean dense = 2 * net.countRoads() > pairsOf(net.size);
+        int placed = 0;
+        for (int place = 0; place < net.size; place++) {
+            int best = 0;
+            int bestTies = -1;
+            for (int post = 0; post < net.size; post++) {
+                int ties = Integer.bitCount((dense ? ~net.roads[post] : net.roads[post]) & placed);
+                if ((placed >> post & 1) == 0 && ties > bestTies) {
+                    best = post;
+                    bestTies = ties;
+                }
+            }
+            order[place] = best;
+            placed |= 1 << best;
+        }
+    }
+
+    /** Whether POSTS of one from place on, in order, can stand for those of the other that are not used yet. */
     private boolean canMatch(Net one, Net other, int place, int used) {
         if (place >= one.size || place >= MOST_POSTS) {
             return true;
         }
+        int roads = one.roads[order[place]];
+        int usedRoads = imageOfRoads(roads, place);
         for (int post = 0; post < other.size; post++) {
-            if ((used >> post & 1) == 0 && fits(one, other, place, post)) {
+            if ((used >> post & 1) == 0 && (other.roads[post] & used) == usedRoads
+                && Integer.bitCount(other.roads[post]) == Integer.bitCount(roads)) {
                 image[place] = post;
                 if (canMatch(one, other, place + 1, used | 1 << post)) {
                     return true;
@@ -770,16 +794,14 @@ public final class ShareNets {
         return false;
     }
 
-    private boolean fits(Net one, Net other, int place, int post) {
-        if (Integer.bitCount(one.roads[place]) != Integer.bitCount(other.roads[post])) {
-            return false;
-        }
-        for (int i = 0; i < place; i++) {
-            if (one.hasRoad(place, i) != other.hasRoad(post, image[i])) {
-                return false;
+    private int imageOfRoads(int roads, int places) {
+        int set = 0;
+        for (int i = 0; i < places; i++) {
+            if ((roads >> order[i] & 1) != 0) {
+                set |= 1 << image[i];
             }
         }
-        return true;
+        return set;
     }
 
     private boolean isFreeNet(Net net) {
@@ -839,9 +861,12 @@ public final class ShareNets {
         }
         int most = -1;
         for (int i = 0; i < MOST_FORMS; i++) {
-            for (int roads = 0; roads < 16 && (heap >> i & 1) != 0; roads++) {
-                small.becomeCode(4, FORMS[i]);
-                small.size = 5;
+            if ((heap >> i & 1) == 0) {
+                continue;
+            }
+            small.becomeCode(4, FORMS[i]);
+            small.size = 5;
+            for (int roads = 0; roads < 16; roads++) {
                 small.setLesserRoads(4, roads);
                 most = Math.max(most, countInFive(m, heap));
             }
@@ -939,7 +964,7 @@ public final class ShareNets {
         return rest % 10;
     }
 
-    /** What BOUND is the greatest of, for the i-th FORM of 3, in parts of 36: thirds by 12. */
+    /** What BOUND is the greatest of, for the i-th FORM of 3, in parts of 36: so WEIGHT by 12 of a third is WEIGHT. */
     private int height(int m, int form, int i) {
         int together = 12 * thirdsOfLift(m, form, i);
         for (int n = 0; n < now.sharesHeld; n++) {

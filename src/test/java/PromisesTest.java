@@ -106,10 +106,11 @@ public final class PromisesTest {
         full.append(" ".repeat(160 - full.length()));
         all("160 bytes", 160, Check.feedText(x, full.toString()), 1, x.read(0), 2, x.netOf(0, 19), 0, x.many(4));
 
-        String[] faults = {"|", "   |", "|post 4;", "|postss 4;", "|Posts 4;", "|4 posts;", "|;", "posts|", "posts |", "posts |;",
+        String[] faults = {"|", "   |", "|post 4;", "|postss 4;", "|postsz 4;", "|xosts 4;", "|a", "|Posts 4;", "|4 posts;", "|;", "posts|", "posts |", "posts |;",
             "posts |x;", "posts |0;", "posts |00;", "posts |11;", "posts |99;", "posts |004;", "posts |100;", "posts |-1;",
             "posts 4|", "posts 4 |", "posts 4 |4;", "posts 4|road", "posts 4|,", "posts 4;|;", "posts 4;|rode 0 1;",
-            "posts 4;|roads 0 1;", "posts 4;|ro", "posts 4;|0", "posts 4;|posts 4;", "posts 4;road|", "posts 4;road |;",
+            "posts 4;|roads 0 1;", "posts 4;|roadz 0 1;", "posts 4;|goad 0 1;",
+            "posts 4;|sing 0 1 2;", "posts 4;|rind 0 1 2;", "posts 4;|ill 0;", "posts 4;|al 0;", "posts 4;|ro", "posts 4;|0", "posts 4;|posts 4;", "posts 4;road|", "posts 4;road |;",
             "posts 4;road 0|", "posts 4;road 0 |;", "posts 4;road 0 1|", "posts 4;road 0 1  |", "posts 4;road 0 |4;",
             "posts 4;road 0 |0;", "posts 4;road 0 1 |0;", "posts 4;road 0 |001;", "posts 4;road 0 1|,2;", "posts 4;road 0 1|x;",
             "posts 4;road 0 1 |road 1 2;", "posts 4;all |;", "posts 4;all 0 1 |1;", "posts 4;all |10;", "posts 4;all 0|",
@@ -216,6 +217,9 @@ public final class PromisesTest {
         net(0, "posts 4;road 0 1 2 3;");
         net(1, "posts 4;road 0 1 2;road 1 3;");
         due("as many roads", 0, x.same(0, 1));
+        net(0, "posts 8;ring 0 1 2 3;ring 4 5 6 7;");
+        net(1, "posts 8;ring 0 1 2 3 4 5 6 7;");
+        all("no post stands for two", 0, x.same(0, 1), 0, x.same(1, 0));
         for (int bad : NO_NET) {
             all("no net", BAD, x.same(bad, 0), BAD, x.same(0, bad));
         }
@@ -224,6 +228,11 @@ public final class PromisesTest {
     void p10() {
         all("forms", 0, x.form(1, 0), 0, x.form(2, 0), 1, x.form(2, 1), 1, x.form(3, 2), 1, x.form(3, 4), 3, x.form(3, 5), 3, x.form(3, 6), 7, x.form(3, 7));
         all("of 4", 12, x.form(4, 33), 11, x.form(4, 56), 7, x.form(4, 52), 13, x.form(4, 44), 30, x.form(4, 51), 31, x.form(4, 62), 15, x.form(4, 57), 63, x.form(4, 63));
+        for (int m = 1; m <= 4; m++) {
+            for (int code = 0; code < 1 << m * (m - 1) / 2; code++) {
+                due("code " + code + " of " + m, Reference.leastOf(m, code), x.form(m, code));
+            }
+        }
         all("BAD bits", BAD, x.form(1, 1), BAD, x.form(2, 2), BAD, x.form(3, 8), BAD, x.form(4, 64), BAD, x.form(4, -1), BAD, x.form(1, LOW), BAD, x.form(4, HIGH));
         all("BAD m", BAD, x.form(0, 0), BAD, x.form(5, 0), BAD, x.form(-1, 0), BAD, x.form(LOW, 0), BAD, x.form(HIGH, 0));
     }
@@ -572,6 +581,8 @@ public final class PromisesTest {
         all("slack", 0, x.slack(2, 1, 0, 0), 1, x.slack(2, 1, 0, 1), 1, x.slack(2, 1, 1, 0), 3, x.slack(2, 1, 1, 1), 0, x.slack(2, 1, 2, 0), NO, x.slack(2, 1, 3, 0));
         all("of 3", 1, x.slack(3, 3, 0, 0), 3, x.slack(3, 3, 0, 1), 0, x.slack(3, 3, 2, 0), 1, x.slack(3, 3, 1, 0), 1, x.slack(3, 3, 1, 1));
         all("NO", NO, x.slack(2, 1, 4, 0), NO, x.slack(2, 1, -1, 0), NO, x.slack(1, 0, 0, 0), NO, x.slack(4, 0, 0, 0), NO, x.slack(2, 3, 0, 0), NO, x.slack(2, 1, 0, 2), NO, x.slack(2, 1, HIGH, 0), NO, x.slack(2, 1, LOW, 0), NO, x.slack(2, 1, 32, 0));
+        x.out(4, 0, true);
+        all("the heap of 3 is meant", 0, x.slack(2, 1, 0, 0), 5, x.tight(2, 1));
         x.out(2, 0, true);
         x.out(2, 1, true);
         due("none in the heap", NO, x.slack(2, 1, 0, 0));
@@ -637,6 +648,10 @@ public final class PromisesTest {
     void p42() {
         net(0, "posts 6;road 0 1;road 2 3 4;");
         all("no rows", 222, x.judge(0, 3), 222, x.judge(0, 1), 0, x.judge(1, 2), 222, x.judge(1, 1));
+        for (int m = 1; m <= 4; m++) {
+            x.prove(0, m);
+            due("right by " + m, 0, x.judge(0, m));
+        }
         x.prove(0, 3);
         all("right", 0, x.judge(0, 3), 1, x.judge(0, 2), 1, x.judge(1, 2), 1, x.judge(1, 1));
         all("a count", 1, x.alterRow(2, 1, 2), 3, x.judge(0, 3), 2, x.alterRow(2, 1, 1), 0, x.judge(0, 3));
