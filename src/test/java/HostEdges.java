@@ -376,6 +376,10 @@ final class HostEdges extends Edges {
             }
             acted(0, 0, COUNTS, 0, 10);
             acted(0, 0, PARTS, 0, 21, 12);
+            for (Scene scene : Scene.values()) {
+                due(1, Arrays.equals(Picture.ofWorld(scene.make()), Picture.ofWorld(afterActs(scene, 4))) ? 1 : 0);
+                due(1, Arrays.equals(Picture.ofHost(afterActs(scene, 0)), Picture.ofHost(afterActs(scene, 4))) ? 1 : 0);
+            }
         });
         edge("THE TRACE's i-th body. NONE.", () -> {
             each(NONE, x.trace(0), x.trace(-1), x.trace(1));
@@ -397,6 +401,18 @@ final class HostEdges extends Edges {
                 each(BAD, x.many(bad), full.many(bad));
             }
         });
+    }
+
+    /** Acts on so many shelves, at the end one without a trace. */
+    private static ShareNets afterActs(Scene scene, int shelves) {
+        ShareNets one = scene.make();
+        for (int shelf = 0; shelf < shelves; shelf++) {
+            for (int act = -1; act <= 4; act++) {
+                one.act(shelf, act, 7);
+            }
+        }
+        one.act(4, COUNTS, 7);
+        return one;
     }
 
     private void keptCalls() {
