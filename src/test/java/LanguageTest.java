@@ -28,6 +28,13 @@ public final class LanguageTest {
         "package", "protected", "native", "volatile", "transient", "strictfp", "double", "float", "equals", "hashCode", "toString",
         "System", "Thread", "Object", "Class", "goto", "var", "sealed", "permits", "yield"};
 
+    private static final Set<String> LIBRARY = Set.of("java/lang/Object.<init>", "java/lang/String.length", "java/lang/String.charAt",
+        "java/lang/Integer.bitCount", "java/lang/Math.max", "java/lang/Math.abs");
+
+    /** They carry their depth as an argument, and look at it first. */
+    private static final Set<String> GUARDED = Set.of("canMatch", "choose", "drawParts", "drawRoads");
+    private static final Path DOCUMENT = Path.of("../shared/DOC.md");
+
     private static final Check CHECK = new Check("LanguageTest");
 
     public static void main(String[] args) throws Exception {
@@ -37,6 +44,14 @@ public final class LanguageTest {
         }
         String source = Files.readString(Path.of("src/main/java/ShareNets.java"), StandardCharsets.ISO_8859_1);
         checkSource(source);
+        checkDocument();
+        Bytecode bytecode = Bytecode.of(allClasses());
+        if (bytecode == null) {
+            System.out.println("LanguageTest: there is no javap here, so the compiled class was not looked at");
+        } else {
+            checkCalls(bytecode);
+            checkSteps(bytecode);
+        }
         CHECK.end();
     }
 
@@ -77,6 +92,57 @@ public final class LanguageTest {
             }
         }
         CHECK.isTrue("constants", constants.equals(Set.of("int BAD", "int FULL", "int NONE", "int STATE", "long NO")));
+    }
+
+    /** The face that is tested here is that of the document. */
+    private static void checkDocument() throws Exception {
+        if (!Files.exists(DOCUMENT)) {
+            System.out.println("LanguageTest: there is no " + DOCUMENT + ", so the face was not looked up");
+            return;
+        }
+        String document = Files.readString(DOCUMENT, StandardCharsets.UTF_8);
+        String face = document.substring(document.indexOf("public final class ShareNets {"), document.indexOf("## Terms"));
+        Matcher told = Pattern.compile("(?m)^    public (int|long) (\\w+)\\((.*)\\);$").matcher(face);
+        Set<String> calls = new TreeSet<>();
+        while (told.find()) {
+            calls.add(told.group(2) + "(" + told.group(3).replaceAll(", ", ",").replaceAll(" \\w+", "") + "):" + told.group(1));
+        }
+        CHECK.isTrue("the document's face is " + calls, calls.equals(new TreeSet<>(Arrays.asList(FACE.split(" ")))));
+        CHECK.isTrue("its constants", face.contains("    public static final int BAD = -1, FULL = -2, NONE = -3, STATE = -4;\n")
+            && face.contains("    public static final long NO = -1000000000000L;\n"));
+        CHECK.isTrue("each has a promise", document.contains("## Promise " + (calls.size() + 1) + ": again"));
+    }
+
+    /** Rules 4, 8 and 11: what is called, and how many calls stand open at once. */
+    private static void checkCalls(Bytecode bytecode) {
+        for (String call : bytecode.outside()) {
+            CHECK.isTrue("rule 4: " + call, LIBRARY.contains(call));
+        }
+        Set<String> recursive = new TreeSet<>();
+        for (String ofClass : bytecode.above.keySet()) {
+            for (String method : bytecode.calls.keySet()) {
+                List<String> row = bytecode.deepest(method, ofClass, new TreeSet<>(), recursive);
+                CHECK.isTrue("rule 11: at most eight deep: " + row, row.size() <= 8);
+            }
+        }
+        for (String method : recursive) {
+            String name = method.substring(method.indexOf('.') + 1, method.indexOf('('));
+            CHECK.isTrue("rule 8: known to be guarded by its depth: " + method, !method.startsWith("round") && GUARDED.contains(name));
+        }
+        CHECK.due("rule 8: recursion was found", GUARDED.size(), recursive.size());
+    }
+
+    private static void checkSteps(Bytecode bytecode) {
+        CHECK.isTrue("steps were found", bytecode.steps.containsKey("invokevirtual"));
+        CHECK.isTrue("rule 6: nothing is caught", !bytecode.catches);
+        for (String step : new String[] {"athrow", "monitorenter", "invokedynamic", "invokeinterface", "checkcast", "jsr"}) {
+            CHECK.isTrue("rules 2 and 6: " + step, !bytecode.steps.containsKey(step));
+        }
+        for (String step : new String[] {"new", "newarray", "anewarray", "multianewarray"}) {
+            for (String method : bytecode.steps.getOrDefault(step, Set.of())) {
+                CHECK.isTrue("rule 12: " + step + " in " + method, method.contains("init>") || method.contains(".makeShare("));
+            }
+        }
     }
 
     private static void checkClass(Class<?> inside) {

@@ -2,15 +2,18 @@ import java.lang.reflect.InvocationTargetException;
 import java.lang.reflect.Method;
 import java.util.ArrayList;
 import java.util.HashMap;
+import java.util.HashSet;
 import java.util.List;
 import java.util.Map;
 import java.util.Random;
+import java.util.Set;
 
 /**
  * Long runs of calls, made by a fixed seed, on a new ShareNets and a new Reference: each answer must be the same.
- * An argument (to the first number): how many runs; a second one: the seed of the first run.
+ * In runs of pairs each call follows on each other one. Arguments: how many runs; the seed of the first run.
  */
 public final class RunsTest {
+    private static final int ROUNDS_OF_PAIRS = 8;
     private static final int[] ALL_FORMS = {0, 1, 3, 7, 11, 12, 13, 15, 30, 31, 63};
     private static final int[] WILD = {Integer.MIN_VALUE, Integer.MIN_VALUE + 1, -100, -11, -2, -1, 4, 5, 6, 8, 10, 11,
         14, 40, 41, 63, 64, 100, 160, 10000, Integer.MAX_VALUE - 9, Integer.MAX_VALUE};
@@ -39,6 +42,9 @@ public final class RunsTest {
         "sheet put item put item shelf taken sheet rows posts netOf many taken",
         "add shelf act trace taken act trace act trace shelf many keep again act trace taken"};
 
+    /** The first one takes away what the second needs. */
+    private static final Set<String> NEVER_BOTH = Set.of("read read", "bare chance", "bare at", "bare freeAt", "bare near", "bare valueAt", "bare met");
+
     private static final Map<String, String> KINDS = new HashMap<>();
 
     static {
@@ -58,6 +64,10 @@ public final class RunsTest {
     private List<String> log = new ArrayList<>();
     private final Map<String, Integer> refused = new HashMap<>();
     private final Map<String, Integer> answered = new HashMap<>();
+
+    /** Pairs of calls, the second right after the first, neither of which answered below 0. */
+    private final Set<String> followed = new HashSet<>();
+    private String before;
 
     private RunsTest(Random random, Check check) {
         this.random = random;
@@ -81,21 +91,99 @@ public final class RunsTest {
             test.random.setSeed(run);
             test.runOnce(run);
         }
+        for (int round = 0; round < ROUNDS_OF_PAIRS && check.wrong() == 0; round++) {
+            test.random.setSeed(seed + round);
+            test.runPairs(seed + round);
+        }
         if (args.length > 0) {
             for (String[] call : CALLS) {
                 System.out.println(call[0] + ": " + test.answered.get(call[0]) + " answered, " + test.refused.get(call[0]) + " below 0");
             }
         }
-        check.isTrue("every call is made", test.answered.size() == CALLS.length);
+        if (check.wrong() == 0) {
+            test.checkPairs();
+        }
         check.end();
     }
 
-    private void runOnce(int number) throws Exception {
+    private void checkPairs() {
+        for (String[] first : CALLS) {
+            for (String[] second : CALLS) {
+                String pair = first[0] + " " + second[0];
+                check.isTrue("one follows on the other, and both are taken: " + pair, followed.contains(pair) != NEVER_BOTH.contains(pair));
+            }
+        }
+    }
+
+    private void begin(int number) {
         run = number;
         calls = 0;
         log.clear();
+        before = null;
         nets = new ShareNets();
         reference = new Reference();
+    }
+
+    /** Every call right after every call, itself too, in an order by the seed. */
+    private void runPairs(int number) throws Exception {
+        List<String[]> pairs = new ArrayList<>();
+        for (String[] first : CALLS) {
+            for (String[] second : CALLS) {
+                pairs.add(new String[] {first[0], second[0]});
+            }
+        }
+        java.util.Collections.shuffle(pairs, random);
+        calls = 512;
+        for (String[] pair : pairs) {
+            if (calls > 500) {
+                begin(number);
+                setUpScene();
+            }
+            prepare(pair);
+            call(pair[0], arguments(pair[0], KINDS.get(pair[0]), 1000));
+            call(pair[1], arguments(pair[1], KINDS.get(pair[1]), 1000));
+        }
+    }
+
+    /** What either call of a pair needs and earlier ones have taken away. */
+    private void prepare(String[] pair) throws Exception {
+        if (reference.s.weights.isEmpty()) {
+            call("part", 3);
+        }
+        if (reference.s.shares.isEmpty()) {
+            call("add", 2, 1, -1);
+        }
+        if (reference.proved.isEmpty()) {
+            call("prove", 3, 1);
+        }
+        if ((pair[0] + pair[1]).contains("read")) {
+            call("read", 0);
+            call("feed", Check.eight("posts 4;", 0, 8), 8);
+        }
+    }
+
+    /** Something of each sort, so that calls find what they ask for. */
+    private void setUpScene() throws Exception {
+        for (int i = 0; i < 4; i++) {
+            call("posts", i, 3 + i);
+            call("mixed", i, 2);
+            call("add", i, 2, 1);
+            call("weight", i, 1 + i);
+            call("sheet", i, i, 4);
+            call("shelf", i, i / 3, i);
+        }
+        call("part", 1);
+        call("part", 2);
+        call("chance", 0, 1, 4);
+        call("chance", 1, 1, 1);
+        call("out", 4, 63, true);
+        call("prove", 2, 3);
+        call("act", 2, 1, 5);
+        call("keep");
+    }
+
+    private void runOnce(int number) throws Exception {
+        begin(number);
         int wildness = random.nextInt(4) == 0 ? 3 : 40;
         String[] mood = someMood();
         boolean texts = random.nextInt(3) == 0;
@@ -191,6 +279,15 @@ public final class RunsTest {
             case "shelf":
                 args[1] = random.nextInt(8) == 0 ? args[1] : (Object) random.nextInt(2);
                 args[2] = args[1].equals(0) ? random.nextInt(Math.max(1, shares)) : random.nextInt(4);
+                break;
+            case "taken":
+                args[0] = shelf;
+                if (reference.shelves[shelf] != null) {
+                    args[1] = reference.shelves[shelf] instanceof Integer ? random.nextInt(4) : 10 + Reference.sortOf(reference.shelves[shelf]);
+                }
+                break;
+            case "formAt":
+                args[1] = random.nextInt(args[0].equals(4) ? 12 : 5);
                 break;
             case "act":
                 args[0] = reference.shelves[shelf] instanceof Integer ? shelf : args[0];
@@ -359,6 +456,10 @@ public final class RunsTest {
         log.add(shown + " = " + got);
         check.due("run " + run + " call " + calls + ": " + shown, want, got);
         (want < 0 ? refused : answered).merge(name, 1, Integer::sum);
+        if (want >= 0 && before != null) {
+            followed.add(before + " " + name);
+        }
+        before = want >= 0 ? name : null;
         if (want != got) {
             log.forEach(System.out::println);
         }
