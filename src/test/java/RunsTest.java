@@ -13,7 +13,7 @@ import java.util.Set;
  * In runs of pairs each call follows on each other one. Arguments: how many runs; the seed of the first run.
  */
 public final class RunsTest {
-    private static final int ROUNDS_OF_PAIRS = 8;
+    private static final int ROUNDS_OF_ALL_PAIRS = 6, MOST_ROUNDS_OF_PAIRS = 200;
     private static final int[] ALL_FORMS = {0, 1, 3, 7, 11, 12, 13, 15, 30, 31, 63};
     private static final int[] WILD = {Integer.MIN_VALUE, Integer.MIN_VALUE + 1, -100, -11, -2, -1, 4, 5, 6, 8, 10, 11,
         14, 40, 41, 63, 64, 100, 160, 10000, Integer.MAX_VALUE - 9, Integer.MAX_VALUE};
@@ -91,9 +91,9 @@ public final class RunsTest {
             test.random.setSeed(run);
             test.runOnce(run);
         }
-        for (int round = 0; round < ROUNDS_OF_PAIRS && check.wrong() == 0; round++) {
+        for (int round = 0; round < MOST_ROUNDS_OF_PAIRS && check.wrong() == 0; round++) {
             test.random.setSeed(seed + round);
-            test.runPairs(seed + round);
+            test.runPairs(seed + round, round < ROUNDS_OF_ALL_PAIRS);
         }
         if (args.length > 0) {
             for (String[] call : CALLS) {
@@ -124,12 +124,15 @@ public final class RunsTest {
         reference = new Reference();
     }
 
-    /** Every call right after every call, itself too, in an order by the seed. */
-    private void runPairs(int number) throws Exception {
+    /** Every call right after every call, itself too, in an order by the seed; or those pairs alone that are still missing. */
+    private void runPairs(int number, boolean all) throws Exception {
         List<String[]> pairs = new ArrayList<>();
         for (String[] first : CALLS) {
             for (String[] second : CALLS) {
-                pairs.add(new String[] {first[0], second[0]});
+                String pair = first[0] + " " + second[0];
+                if (all || !followed.contains(pair) && !NEVER_BOTH.contains(pair)) {
+                    pairs.add(new String[] {first[0], second[0]});
+                }
             }
         }
         java.util.Collections.shuffle(pairs, random);
